@@ -965,7 +965,6 @@ public final class LeastFailing {
 
         void clear() {
             nodes = 0;
-            deepest = 0;
         }
 
         void copyFrom(Tree other) {
@@ -1133,7 +1132,6 @@ public final class LeastFailing {
                     break;
                 }
             }
-            tree.settle();
             return text.isAtEnd() || text.fail(FAULT_TEXT);
         }
 

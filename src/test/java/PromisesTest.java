@@ -164,6 +164,21 @@ public final class PromisesTest {
     give(x, "leaf x e;");
     due("feed behind 9", x.feed(0x20202020, 0x20202020, 0x20202020, 0x20202020, 0x20202020), 29);
     due("grammar() with blanks", x.grammar(), 1);
+    give(x, "xy");
+    x.end(1);
+    due("input() of the first byte", x.input(), 1);
+    give(x, "bug a odds 12345");
+    x.end(12);
+    due("bugs() of the first 12 bytes", x.bugs(), -1);
+    due("place of what is missing", x.fault(1), 12);
+    give(x, " ".repeat(999) + "x");
+    due("input() of 1000 bytes", x.input(), 1);
+    give(x, " ".repeat(1000));
+    due("input() of blanks", x.input(), -1);
+    due("place of what is missing", x.fault(1), 1000);
+    give(x, "bug a odds" + " ".repeat(989) + "1");
+    due("bugs() of 1000 bytes", x.bugs(), -1);
+    due("place of what is missing", x.fault(1), 1000);
   }
 
   private static String lines(int many) {
@@ -595,6 +610,18 @@ public final class PromisesTest {
     due("as bits", x.holding(), 5);
     giveBugs(x, "");
     due("without BUGS", x.holding(), 0);
+    due("many and", holds("size=8 and ".repeat(70) + "size=8"), 1);
+    due("many and, one not", holds("size=8 and ".repeat(70) + "size=9"), 0);
+    due("many and, the first not", holds("size=9 and " + "size=8 and ".repeat(60) + "size=8"), 0);
+    due("many or", holds("size=9 or ".repeat(70) + "size=8"), 1);
+    due("many or, none", holds("size=9 or ".repeat(70) + "size=9"), 0);
+    due("both by turns", holds("size=9 or size=8 and ".repeat(40) + "size=8"), 1);
+    due("many [", holds("[size=9]or".repeat(80) + "[size=9]"), 0);
+    due("many not[", holds("not[size=9]and ".repeat(60) + "[size=8]"), 1);
+    due("nests", holds("size=9 or size=8 and[".repeat(6) + "size=8" + "]".repeat(6)), 1);
+    due("nests, the inmost not", holds("size=9 or size=8 and[".repeat(6) + "size=9" + "]".repeat(6)), 0);
+    due("nests with nots", holds("size=9 or size=8 and not[".repeat(3) + "size=9" + "]".repeat(3)), 1);
+    due("many steps", holds("not not not not not not size=9 or ".repeat(28) + "not size=8"), 0);
     due("without an INPUT", made(EXPRESSIONS, "", "bug a odds 1 when size=0;").holding(), -1);
   }
 
