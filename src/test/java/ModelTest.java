@@ -9,6 +9,7 @@ import java.util.TreeSet;
 /** Runs of calls by a fixed seed on LeastFailing and Model: each answer has to be the same. */
 public final class ModelTest {
   private static final int CALLS = 512;
+  private static final int[] EXTREMES = {Integer.MIN_VALUE, Integer.MIN_VALUE + 1, -1000, 600, 1000, Integer.MAX_VALUE};
   /** What the runs have to have come by, so that an empty comparison is seen. */
   private static final Map<String, Integer> SEEN = new TreeMap<>();
   private static int wrong = 0;
@@ -122,7 +123,9 @@ public final class ModelTest {
     if (m.count(8) > 0 && m.count(5) == 600) seen("out of 600");
   }
 
+  /** Mostly a number that can be, or one just beside; now and then any number. */
   private int some(int below) {
+    if (random.nextInt(60) == 0) return random.nextBoolean() ? random.nextInt() : EXTREMES[random.nextInt(EXTREMES.length)];
     return random.nextInt(below + 3) - 2;
   }
 
@@ -251,8 +254,8 @@ public final class ModelTest {
 
   private void part() {
     int many = some(83);
-    int n = some(Math.max(1, many) + 1);
-    int i = some(Math.max(1, n) + 1);
+    int n = some(Math.min(90, Math.max(1, many)) + 1);
+    int i = some(Math.min(90, Math.max(1, n)) + 1);
     int what = some(3);
     String call = "part " + many + " " + n + " " + i + " " + what;
     due(call, x.part(many, n, i, what), m.part(many, n, i, what));
