@@ -1270,7 +1270,7 @@ public final class LeastFailing {
                         held ^= 1;
                         break;
                     case STEP_AND:
-                        held = held >> 1 & (top | -2);
+                        held = top == 1 ? held >> 1 : held >> 1 & -2;
                         break;
                     case STEP_OR:
                         held = held >> 1 | top;
