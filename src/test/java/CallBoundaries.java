@@ -318,6 +318,27 @@ final class CallBoundaries {
     Due.due("its NAME", x.name(2, 0), "a");
   }
 
+  @Says(in = "Promise 6", words = "NONE with a FAULT")
+  static void promise06_a_fault_leaves_nothing_open() {
+    Subject x = of("x", ALWAYS);
+    String deep = "bug a odds 1 when [[[[[[size=1]]]]]];bug b odds 1 when not not not not not not size=2;bug c odds 1 when size=1;";
+    for (String bad : new String[] {"[[[[[[", "not not not [[[size>0 or", "[[[[[[[", "[not[size>0 and", "size>0]]"}) {
+      due("bugs() with a FAULT", x.bugs("bug a odds 1 when " + bad), -1);
+      due("bugs() behind it", x.bugs(deep), 3);
+      due("holding()", x.holding(), 5);
+    }
+    // An INPUT with a FAULT leaves no ( open either.
+    for (String bad : new String[] {"(seq".repeat(13), "(seq(seq(seq", "(seq x(add"}) {
+      due("input() with a FAULT", x.input(bad), -1);
+      due("input() behind it", x.input("(seq".repeat(12) + ")".repeat(12)), 12);
+      due("a leaf", x.input("x"), 1);
+    }
+    // Nor does a GRAMMAR leave LINES or SORTS.
+    due("grammar() with a FAULT", x.grammar("form f a:b c d e;leaf x p;leaf x q;"), -1);
+    due("grammar() behind it", x.grammar("leaf a a;leaf b b;leaf c c;leaf d d;leaf e e;leaf x f;"), 6);
+    due("SORTS", x.count(1), 6);
+  }
+
   @Says(in = "Promise 6", words = "(No act that is undone.)")
   static void promise06_no_act_that_is_undone() {
     Subject x = of("(seq x)", ALWAYS);
@@ -570,6 +591,23 @@ final class CallBoundaries {
     }
   }
 
+  @Says(in = "Promise 12", words = "10 on the SORTS behind it")
+  static void promise12_the_24th_line_in_full() {
+    // 19 LINES of SORT e, four of a, b, c, d, and the last of a sixth SORT.
+    String lines = TextBoundaries.leaves(19) + "leaf va a;leaf vb b;leaf vc c;leaf vd d;form last f:d c b a*;";
+    Subject x = new Subject();
+    due("grammar()", x.grammar(lines), 24);
+    int[] want = {1, 5, 4, 1};
+    for (int what = 0; what < 4; what++) due("line(23, " + what + ")", x.line(23, what), want[what]);
+    for (int i = 0; i < 4; i++) due("line(23, " + (10 + i) + ")", x.line(23, 10 + i), 4 - i);
+    due("line(23, 14)", x.line(23, 14), -1);
+    Due.due("the sixth SORT", x.name(1, 5), "f");
+    due("its LEAST", x.least(5, -1), 4);
+    due("the first NODE of it", x.least(5, 0), 23);
+    due("the last NODE of it", x.least(5, 3), 20);
+    Due.due("the 24th NAME", x.name(0, 23), "last");
+  }
+
   @Says(in = "Promise 12", words = "NONE when there is none such, or for others")
   static void promise12_none_when_there_is_none_such() {
     Subject x = Subject.of("form f e:e e e e*;leaf x e;", "", "");
@@ -743,7 +781,7 @@ final class CallBoundaries {
 
   @Says(in = "Promise 17", words = "NONE, too, without an INPUT")
   static void promise17_none_without_an_input() {
-    Subject x = of("", ALWAYS);
+    Subject x = of("", "bug a odds 100 when size<9;");
     due("verdict()", x.verdict(), -1);
     due("none TRIED", x.count(5), 0);
     due("no RUNS", x.count(7), 0);
@@ -774,7 +812,7 @@ final class CallBoundaries {
 
   @Says(in = "Promise 18", words = "NONE, too, when x can't be, without an INPUT")
   static void promise18_none_when_x_cannot_be() {
-    Subject x = of("x", ALWAYS);
+    Subject x = of("x", "bug a odds 100 when size<9;");
     due("run(0)", x.run(0), 0);
     for (int seed : new int[] {-1, -2, LEAST, LEAST + 1}) due("run(" + seed + ")", x.run(seed), -1);
     due("the seed stays", x.count(9), 1);
@@ -913,8 +951,12 @@ final class CallBoundaries {
   @Says(in = "Promise 22", words = "-3 without an INPUT, or if its VERDICT is NONE")
   static void promise22_without_an_input_or_a_verdict() {
     due("of a new object", new Subject().more(), -3);
-    due("without an INPUT", of("", ALWAYS).more(), -3);
-    Subject x = of("(seq x y)", "bug a odds 100 when size>3;");
+    // A TEST that would hold for a TREE of no NODES: there is none.
+    Subject x = of("", "bug a odds 100 when size<9;");
+    due("without an INPUT", x.more(), -3);
+    due("none TRIED", x.count(5), 0);
+    due("no RUNS", x.count(7), 0);
+    x = of("(seq x y)", "bug a odds 100 when size>3;");
     due("VERDICT is NONE", x.more(), -3);
     Due.dueTraces(x, new int[] {3, -1, 0, -1});
     due("without BUGS", of("(seq x y)", "").more(), -3);
@@ -983,8 +1025,11 @@ final class CallBoundaries {
 
   @Says(in = "Promise 24", words = "-3 without an INPUT, or if that is not its VERDICT (it is TRIED)")
   static void promise24_without_an_input_or_not_its_verdict() {
-    due("without an INPUT", of("", ALWAYS).reduce(0, 0), -3);
-    Subject x = of("(seq x y)", "bug a odds 100 when size>3;bug b odds 100 when size>0;");
+    Subject x = of("", "bug a odds 100 when size<9;");
+    for (int how = 0; how < 4; how++) due("without an INPUT", x.reduce(0, how), -3);
+    due("none TRIED", x.count(5), 0);
+    due("no act", x.count(10), 0);
+    x = of("(seq x y)", "bug a odds 100 when size>3;bug b odds 100 when size>0;");
     for (int how = 0; how < 4; how++) due("reduce(0, " + how + ")", x.reduce(0, how), -3);
     Due.dueTraces(x, new int[] {3, 1, 0, -1});
     due("asked again", x.count(6), 3);

@@ -96,6 +96,45 @@ final class FaultBoundaries {
     badBug("deep size>0", 1, 23);
   }
 
+  /** Without one of its pieces a text is wrong at the piece behind. */
+  private static void without(int kind, String[] pieces, int gone) {
+    StringBuilder b = new StringBuilder();
+    int place = -1;
+    for (int i = 0; i < pieces.length; i++) {
+      if (i == gone) place = b.length();
+      else b.append(pieces[i]).append(' ');
+    }
+    if (kind == 0) Due.badGrammar(b.toString(), 1, place);
+    if (kind == 2) Due.badBugs(EXPRESSIONS, b.toString(), 1, place);
+  }
+
+  @Says(in = "Terms I", words = "1 the first byte with which no such text goes on")
+  static void faults_1_at_what_stands_behind_a_piece_that_is_missing() {
+    String[] leaf = {"leaf", "x", "e", ";"};
+    for (int i : new int[] {0, 2, 3}) without(0, leaf, i);
+    String[] form = {"form", "f", "e", ":", "e", "*", ";", "leaf", "x", "e", ";"};
+    for (int i : new int[] {0, 2, 4, 6, 7, 9, 10}) without(0, form, i);
+    String[] bug = {"bug", "a", "odds", "5", "when", "not", "[", "size", ">", "0", "]", "or", "under", "x", "y", "<", "9", ";",
+        "bug", "b", "odds", "5", "when", "has", "x", "=", "0", ";"};
+    for (int i : new int[] {0, 1, 2, 3, 4, 7, 8, 9, 11, 12, 14, 15, 16, 17, 18, 19, 20, 21, 22, 23, 24, 25, 26, 27}) {
+      without(2, bug, i);
+    }
+    Due.badBugs(EXPRESSIONS, "bug a 5 when size>0;", 1, 6);
+    Due.badBugs(EXPRESSIONS, "bug odds 5 when size>0;", 1, 4);
+    Due.badBugs(EXPRESSIONS, "bug a odds when size>0;", 1, 11);
+    Due.badBugs(EXPRESSIONS, "bug a odds 5 size>0;", 1, 13);
+    // Two of a kind.
+    Due.badBugs(EXPRESSIONS, "bug bug a odds 5 when size>0;", 1, 4);
+    Due.badBugs(EXPRESSIONS, "bug a b odds 5 when size>0;", 1, 6);
+    Due.badBugs(EXPRESSIONS, "bug a odds odds 5 when size>0;", 1, 11);
+    Due.badBugs(EXPRESSIONS, "bug a odds 5 5 when size>0;", 1, 13);
+    Due.badBugs(EXPRESSIONS, "bug a odds 5 when when size>0;", 1, 18);
+    badBug("size size>0", 1, 23);
+    badBug("size>>0", 1, 23);
+    badBug("size>0 0", 1, 25);
+    Due.badBugs(EXPRESSIONS, bug("size>0") + ";", 1, 25);
+  }
+
   @Says(in = "Terms I", words = "WORDS and numbers whole, at their first byte")
   static void faults_1_words_and_numbers_whole() {
     Due.badGrammar("leafs x e;", 1, 0);

@@ -217,10 +217,13 @@ final class Model {
   }
 
   private int nodesRead;
+  /** The 81st NODE is a form: the document does not say whether its FAULT is at the ( or at the NAME. */
+  boolean leftOpen = false;
 
   private Tree readTree(int sort, int open) throws Fault {
     boolean form = peek().is("(");
     if (form) {
+      leftOpen = nodesRead == 80;
       check(nodesRead < 80 && open < 12, 4);
       at++;
     }
@@ -613,6 +616,7 @@ final class Model {
     }
     List<Tree> got = new ArrayList<>();
     nodesRead = 0;
+    leftOpen = false;
     boolean good = reads(() -> {
       got.add(readTree(0, 0));
       check(peek().kind() == 'e', 1);

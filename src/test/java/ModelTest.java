@@ -8,7 +8,8 @@ import java.util.TreeSet;
 
 /** Runs of calls by a fixed seed on LeastFailing and Model: each answer has to be the same. */
 public final class ModelTest {
-  private static final int CALLS = 512;
+  /** With what is begun by then, and the counts at the end, a run stays below 512 calls. */
+  private static final int CALLS = 452;
   private static final int[] EXTREMES = {Integer.MIN_VALUE, Integer.MIN_VALUE + 1, -1000, 600, 1000, Integer.MAX_VALUE};
   /** What the runs have to have come by, so that an empty comparison is seen. */
   private static final Map<String, Integer> SEEN = new TreeMap<>();
@@ -101,8 +102,10 @@ public final class ModelTest {
     if (which == 0) due(name, x.grammar(), m.grammar());
     else if (which == 1) due(name, x.input(), m.input());
     else due(name, x.bugs(), m.bugs());
-    due("fault 0", x.fault(0), m.fault(0));
-    due("fault 1", x.fault(1), m.fault(1));
+    if (which != 1 || !m.leftOpen) {
+      due("fault 0", x.fault(0), m.fault(0));
+      due("fault 1", x.fault(1), m.fault(1));
+    }
     seen(name + " fault " + m.fault(0));
   }
 
@@ -145,6 +148,7 @@ public final class ModelTest {
       else ask();
     }
     for (int what = 0; what < 12; what++) due("count " + what, x.count(what), m.count(what));
+    if (log.size() > 512) throw new IllegalStateException("a run of more than 512 calls");
   }
 
   private void act(boolean talkative) {
@@ -181,6 +185,8 @@ public final class ModelTest {
       }
       case 11: case 12: {
         if (talkative && random.nextInt(3) > 0) break;
+        // Whether undo() forgets TRIED when there is none to be undone is not said.
+        if (m.count(10) == 0 && m.count(5) > 0) break;
         int want = due("undo", x.undo(), m.undo());
         if (want >= 0) seen(m.input == null ? "undone to none" : "undone");
         break;

@@ -226,6 +226,24 @@ final class TreeBoundaries {
     }
   }
 
+  @Says(in = "Terms II", words = "A TREE that was TRIED keeps its VERDICT")
+  static void terms2_trees_that_differ_in_one_node_are_not_one() {
+    // CUTS of two NODES side by side leave TREES that differ in one NODE: all of them are unlike.
+    StringBuilder input = new StringBuilder("(seq");
+    for (int i = 0; i < 79; i++) input.append(' ').append((char) ('a' + i % 23));
+    Subject x = Subject.of(TextBoundaries.leaves(23) + "form seq e:e*;", input + ")", "bug a odds 100 when size>0;");
+    int many = x.single(-1, 0);
+    for (int k = many - 79; k < many; k++) due("tries(" + k + ")", x.tries(k), 0);
+    due("all are TRIED", x.count(5), 79);
+    due("none again", x.count(6), 0);
+    // The same NAMES in the same order, with other PARTS: (seq (seq x) y), (seq (seq x y)).
+    x = of("(seq(seq x y)y)", "bug a odds 100 when deep=2 and next seq y=1 and size=4;bug b odds 100 when size=4;");
+    many = x.single(-1, 0);
+    due("CUT of the last NODE: (seq (seq x y))", x.tries(many - 1), 1);
+    due("CUT of the one ahead: (seq (seq x) y)", x.tries(many - 2), 0);
+    due("both are TRIED", x.count(5), 2);
+  }
+
   @Says(in = "Terms II", words = "TRIED are forgotten by grammar(), input(), bugs(), votes(), seed() that are done, by undo()")
   static void terms2_tried_are_forgotten_by_acts_that_are_done() {
     String bugs = bugsOf(100);
@@ -558,6 +576,18 @@ final class TreeBoundaries {
     due("row(1, 0)", x.row(1, 0), 4);
     due("BY LEVELS", x.reduce(0, 0), 1);
     Due.due("the INPUT", x.told(), "(top (a (b d)))");
+  }
+
+  @Says(in = "Terms II", words = "ROW are the NODES of that LEVEL")
+  static void terms2_a_row_has_no_nodes_of_the_level_before() {
+    // 80 NODES: the last one, of LEVEL 1, stays when LEVEL 2 is changed.
+    Subject x = ofTest("(seq(seq x x)" + " x".repeat(75) + " y)", "size=80");
+    due("BY LEVELS", x.reduce(0, 0), 0);
+    int last = x.count(5) - 1;
+    Due.dueTrace(x, last, 79, -1, 2, 2);
+    Due.dueTrace(x, last - 1, 78, -1, 1, 2);
+    x = ofTest("(seq(seq x x)" + " x".repeat(75) + " y)", "size=80 or size=79 and has y=1 and has seq=2 and next seq x=0");
+    due("none of LEVEL 1", x.reduce(0, 0), 0);
   }
 
   @Says(in = "Terms II", words = "Without any on to the next one")
