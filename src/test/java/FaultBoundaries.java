@@ -135,6 +135,34 @@ final class FaultBoundaries {
     Due.badBugs(EXPRESSIONS, bug("size>0") + ";", 1, 25);
   }
 
+  @Says(in = "Terms I", words = "1 the first byte with which no such text goes on")
+  static void faults_1_at_a_test_without_what_stands_ahead_of_it() {
+    Due.badBugs(EXPRESSIONS, "size>0;", 1, 0);
+    Due.badBugs(EXPRESSIONS, "not size>0;", 1, 0);
+    Due.badBugs(EXPRESSIONS, "[size>0];", 1, 0);
+    Due.badBugs(EXPRESSIONS, "bug size>0;", 1, 4);
+    Due.badBugs(EXPRESSIONS, "bug a size>0;", 1, 6);
+    Due.badBugs(EXPRESSIONS, "bug a[size>0];", 1, 5);
+    Due.badBugs(EXPRESSIONS, "bug a odds size>0;", 1, 11);
+    Due.badBugs(EXPRESSIONS, "bug a odds[size>0];", 1, 10);
+    Due.badBugs(EXPRESSIONS, "bug a odds 5[size>0];", 1, 12);
+    Due.badBugs(EXPRESSIONS, bug("size>0") + "size>0;", 1, 25);
+  }
+
+  @Says(in = "Terms I", words = "1 the first byte with which no such text goes on")
+  static void faults_1_at_what_stands_behind_a_count_without_its_sign() {
+    String[] counts = {"size", "deep", "has x", "under x y", "next x y"};
+    for (String count : counts) {
+      for (String behind : new String[] {"", "]", " or size>0", " and size>0", " 0", "[size>0]", ">", ">]", "> or size>0", ">x"}) {
+        int place = 18 + count.length();
+        if (behind.startsWith(" ") || behind.startsWith(">")) place++;
+        if (behind.startsWith("> ")) place++;
+        badBug(count + behind, 1, place);
+        badBug("[" + count + behind, 1, place + 1);
+      }
+    }
+  }
+
   @Says(in = "Terms I", words = "WORDS and numbers whole, at their first byte")
   static void faults_1_words_and_numbers_whole() {
     Due.badGrammar("leafs x e;", 1, 0);
@@ -178,6 +206,18 @@ final class FaultBoundaries {
     Due.badBugs(EXPRESSIONS, "bug a odds 999 when size>0;", 2, 11);
     badBug("size>0000", 1, 23);
     Due.goodBugs(EXPRESSIONS, bug("size>000"), 1);
+    // A number is no sign, also if it is that sign's byte, or begins with it.
+    for (String n : new String[] {"", "0", "00", "9999"}) {
+      Due.badGrammar("leaf x e 059" + n, 1, 9);
+      Due.badGrammar("leaf x e059" + n, 1, 8);
+      Due.badGrammar("form f e 058" + n + ";", 1, 9);
+      badInput("040" + n + "seq)", 1, 0);
+      badInput("(seq 041" + n, 1, 5);
+      badInput("(seq x 041" + n, 1, 7);
+      badBug("091" + n + "size>0]", 1, 18);
+      badBug("size 062" + n + " 0", 1, 23);
+      badBug("[size>0 093" + n, 1, 26);
+    }
   }
 
   /** Each piece alone must be missed at the length of those ahead of it. */
@@ -308,6 +348,13 @@ final class FaultBoundaries {
     badInput(full + "\n\n y", 4, 165);
     badInput("(seq(seq" + " x".repeat(78) + ")y)", 4, 165);
     badInput(full + "x", 3, 161);
+    // A form, too; whether it is at its ( or at its NAME is left open.
+    Subject x = Subject.of(EXPRESSIONS, "x", "");
+    for (String form : new String[] {"(seq)", "(seq))", "(add x y))"}) {
+      Due.due("an 81st NODE that is a form", x.input(full + form), -1);
+      Due.due("fault(0)", x.fault(0), 4);
+      Due.due("the INPUT stays", x.count(2), 1);
+    }
   }
 
   @Says(in = "Terms I", words = "a 13th ( that is open")

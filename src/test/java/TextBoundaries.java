@@ -523,6 +523,17 @@ final class TextBoundaries {
     holds("x", "not ".repeat(6) + "size=2 or " + "not not not not not not size=2 or ".repeat(27) + "not size=1", false);
     holds("x", "size=2 or size=1 and[".repeat(6) + "size=1" + "]".repeat(6), true);
     holds("x", "size=2 or size=1 and[".repeat(6) + "size=2" + "]".repeat(6), false);
+    // In six of [ an or and an and are open in each, and behind the last of them, too.
+    String nest = "size=2 or size=1 and[";
+    holds("x", nest.repeat(6) + "size=2 or size=1 and size=1" + "]".repeat(6), true);
+    holds("x", nest.repeat(6) + "size=2 or size=1 and size=2" + "]".repeat(6), false);
+    holds("x", nest.repeat(6) + "size=1 or size=1 and size=2" + "]".repeat(6), true);
+    holds("x", "size=2 or size=2 and[" + nest.repeat(5) + "size=2 or size=1 and size=1" + "]".repeat(6), false);
+    holds("x", "size=1 or size=2 and[" + nest.repeat(5) + "size=2 or size=1 and size=2" + "]".repeat(6), true);
+    holds("x", nest.repeat(6) + "size=2 or size=1 and size=1" + "]".repeat(6) + " and size=2", false);
+    holds("x", nest.repeat(6) + "size=2 or size=1 and size=2" + "]".repeat(6) + " or size=1", true);
+    holds("x", nest.repeat(5) + "size=2 or size=1 and not size=2 and size=1" + "]".repeat(5), true);
+    holds("x", nest.repeat(5) + "size=2 or size=1 and not size=1 or size=2" + "]".repeat(5), false);
   }
 
   @Says(in = "Terms I", words = "FACT: not FACT; [ TEST ] ; COUNT SIGN N")

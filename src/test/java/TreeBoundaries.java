@@ -394,6 +394,33 @@ final class TreeBoundaries {
     due("OUT", x.count(8) >= 2, true);
   }
 
+  @Says(in = "Terms II", words = "a TREE beyond is not, and its VERDICT is NONE (it is OUT)")
+  static void terms2_trees_that_are_out_are_not_taken() {
+    Subject x = manyTrees();
+    fill(x);
+    // A HOIST to NODE 0 that was TRIED, of 64 NODES or fewer: its VERDICT is the sixth bug, as that of all below.
+    int k = 1;
+    while (x.single(k, 3) < 10 || x.tries(k) != 5) k++;
+    due("a HOIST", x.single(k, 1), 2);
+    int nodes = x.change(k);
+    due("NODES", nodes < 69, true);
+    int out = x.count(8);
+    int acts = x.count(10);
+    // (seq) has not been TRIED, nor any other TREE with NODES of LEVEL 1, 2 .. CUT.
+    due("BY LEVELS", x.reduce(5, 0), 0);
+    due("OUT", x.count(8) > out, true);
+    due("TRIED", x.count(5), 600);
+    due("RUNS", x.count(7), 600);
+    due("an act, too", x.count(10), acts + 1);
+    due("the INPUT stays", x.count(2), nodes);
+    // LEAST of NODE 0, which was TRIED, is taken.
+    due("BY CUTS", x.reduce(5, 2), 1);
+    due("NODES", x.count(2), 1);
+    x.undo();
+    due("forgotten, none is OUT: BY LEVELS", x.reduce(5, 0), 1);
+    Due.due("the INPUT", x.told(), "(seq)");
+  }
+
   @Says(in = "Terms II", words = "A DRAW of m: x (the seed) becomes (1103515245 x + 12345) mod 2 to the 31")
   static void terms2_a_draw_wraps_around_at_2_to_the_31() {
     Subject x = of("x", bugsOf(50));
