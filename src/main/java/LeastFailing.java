@@ -1693,7 +1693,7 @@ public final class LeastFailing {
 
         /** On to the next one; false, if there is none. */
         boolean step() {
-            while (node < tree.nodes) {
+            for (; node < tree.nodes; atNode(node + 1)) {
                 if (kind < CUT) {
                     kind = CUT;
                     if (tree.canCut(node)) {
@@ -1712,7 +1712,6 @@ public final class LeastFailing {
                         return true;
                     }
                 }
-                atNode(node + 1);
             }
             return false;
         }

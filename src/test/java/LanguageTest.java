@@ -1,11 +1,16 @@
 import java.io.IOException;
+import java.lang.reflect.Array;
 import java.lang.reflect.Constructor;
 import java.lang.reflect.Field;
 import java.lang.reflect.Method;
 import java.lang.reflect.Modifier;
 import java.nio.file.Files;
 import java.nio.file.Path;
+import java.util.ArrayDeque;
 import java.util.ArrayList;
+import java.util.Collections;
+import java.util.Deque;
+import java.util.IdentityHashMap;
 import java.util.List;
 import java.util.Set;
 import java.util.TreeSet;
@@ -16,7 +21,7 @@ import java.util.regex.Pattern;
 public final class LanguageTest {
   private static int wrong = 0;
 
-  public static void main(String[] args) throws IOException {
+  public static void main(String[] args) throws IOException, IllegalAccessException {
     Path root = Path.of(args.length > 0 ? args[0] : ".");
     String source = Files.readString(root.resolve("src/main/java/LeastFailing.java"));
     String code = plain(source);
@@ -24,6 +29,8 @@ public final class LanguageTest {
     classes();
     words(code);
     methods(code);
+    room();
+    made(code);
     System.out.println(wrong == 0 ? "the language is kept to" : wrong + " rules are broken");
     if (wrong != 0) System.exit(1);
   }
@@ -146,5 +153,42 @@ public final class LanguageTest {
       many++;
     }
     check(many >= 32, "methods seen: " + many);
+  }
+
+  /** What an object keeps is made with it: a small part of the room of 600,000 objects, 7.3 million elements. */
+  private static void room() throws IllegalAccessException {
+    Set<Object> seen = Collections.newSetFromMap(new IdentityHashMap<>());
+    Deque<Object> open = new ArrayDeque<>(List.of(new LeastFailing()));
+    long elements = 0;
+    while (!open.isEmpty()) {
+      Object o = open.pop();
+      if (!seen.add(o)) continue;
+      if (o.getClass().isArray()) {
+        int length = Array.getLength(o);
+        elements += length;
+        boolean plain = o.getClass().getComponentType().isPrimitive();
+        for (int i = 0; i < length && !plain; i++) if (Array.get(o, i) != null) open.push(Array.get(o, i));
+        continue;
+      }
+      for (Field f : o.getClass().getDeclaredFields()) {
+        if (Modifier.isStatic(f.getModifiers())) continue;
+        elements++;
+        f.setAccessible(true);
+        if (!f.getType().isPrimitive() && f.get(o) != null) open.push(f.get(o));
+      }
+    }
+    check(seen.size() <= 1000, "objects kept: " + seen.size());
+    check(elements <= 50000, "elements kept: " + elements);
+  }
+
+  /** Nothing is made by a call: new stands in fields and constructors alone. */
+  private static void made(String code) {
+    Matcher m = Pattern.compile("\n( {4}| {8})(?! )([\\w\\[\\] ]+)\\([^;{}]*\\) \\{\n").matcher(code);
+    while (m.find()) {
+      if (!m.group(2).strip().contains(" ") || m.group(2).strip().equals("public LeastFailing")) continue;
+      int end = code.indexOf("\n" + m.group(1) + "}", m.start());
+      check(!Pattern.compile("\\b(new|clone|copyOf|copyOfRange|values)\\b").matcher(code.substring(m.start(), end)).find(),
+          "makes something: " + m.group(2).strip());
+    }
   }
 }
